@@ -561,6 +561,7 @@ public final class EdgesTest {
         tensWithinTheBed();
         gainsAreCut();
         restsAtBothEnds();
+        twentyRounds();
         loudestNoise();
         lastDayOfLikely();
         partsOfAHundred();
@@ -635,6 +636,41 @@ public final class EdgesTest {
         due("five houses, the first without sleepers", z.rests(0), 0);
         due("and the last", z.rests(4), 0);
         due("nobody is shifted by it", z.sleeper(7, 4), 0);
+    }
+
+    /**
+     * A valley, found by a long search, whose rounds change something twenty times before they rest:
+     * one too many. A round later the twentieth is the one that changes nothing, and so on.
+     */
+    private void twentyRounds() {
+        FirstAwake x = Checks.of("house 1 158 60;house 1 66 60;house 1 101 60;house 1 71 60;house 1 121 60;sleeper 1 278 0 0;"
+            + "sleeper 3 287 6 0;sleeper 0 325 57 0;sleeper 4 293 59 0;sleeper 0 392 10 0;sleeper 3 286 2 0;sleeper 2 304 43 0;");
+        int[] homes = {1, 3, 0, 4, 0, 3, 2};
+        int[] shifts = {0, 0, 30, 10, 20};
+        for (int s = 0; s < homes.length; s++) {
+            x.shift(s, shifts[homes[s]]);
+        }
+        due("twenty rounds change something: never", x.rests(NONE), NONE);
+        due("never, house 2", x.rests(2), NONE);
+        for (int left = 19; left >= 0; left--) {
+            playRound(x, homes);
+            due(left + " rounds are left", x.rests(NONE), left);
+            due("house 2 with " + left + " left", x.rests(2), 60);
+            due("house 3 with " + left + " left", x.rests(3), 0);
+        }
+        due("they rest", x.sleeper(6, 4), 60);
+    }
+
+    /** A round by hand, in a valley of five houses that all have sleepers. */
+    private static void playRound(FirstAwake x, int[] homes) {
+        for (int h = 0; h < 5; h++) {
+            int k = x.best(h, 0);
+            for (int s = 0; s < homes.length; s++) {
+                if (homes[s] == h) {
+                    x.shift(s, k);
+                }
+            }
+        }
     }
 
     private void loudestNoise() {
