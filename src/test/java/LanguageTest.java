@@ -9,6 +9,7 @@ import java.nio.file.Path;
 import java.util.Arrays;
 import java.util.HashSet;
 import java.util.List;
+import java.util.Map;
 import java.util.Set;
 import java.util.TreeSet;
 import java.util.regex.Matcher;
@@ -22,14 +23,15 @@ public final class LanguageTest {
         "house(int,int)", "sleeper(int,int)", "shift(int,int)", "noise(int,int,int)", "hush()", "law(int)", "dawn(int)",
         "ruler(int,int)", "odds(int)", "together(int)", "best(int,int)", "rests(int)", "loud(int,int)", "work(int,int)",
         "likely(int,int)", "tell(int,int)", "forget()", "lies()", "fits(int,int)", "seed(int)", "keep(int)", "goBack(int)");
-    private static final List<String> CONSTANTS = List.of("NONE", "UNKNOWN", "OUTSIDE", "NOT", "FULL");
+    private static final Map<String, Integer> CONSTANTS = Map.of("NONE", -1, "UNKNOWN", -1000000001,
+        "OUTSIDE", -1000000002, "NOT", -1000000003, "FULL", -1000000004);
     private static final String FORBIDDEN = "\\b(throw|throws|try|catch|finally|synchronized|assert|instanceof|native|volatile"
         + "|double|float|Math\\.\\w+Exact|System\\.(?!arraycopy)\\w+|Thread|Random|Object|hashCode|toString)\\b|->|::";
 
     private final Checks checks = new Checks();
     private final Set<String> publicNames = new HashSet<>();
 
-    public static void main(String[] args) throws IOException {
+    public static void main(String[] args) throws IOException, ReflectiveOperationException {
         LanguageTest test = new LanguageTest();
         test.face();
         test.classesInside();
@@ -45,7 +47,7 @@ public final class LanguageTest {
         return text.append(')').toString();
     }
 
-    private void face() {
+    private void face() throws ReflectiveOperationException {
         Class<?> c = FirstAwake.class;
         checks.that("public and final", Modifier.isPublic(c.getModifiers()) && Modifier.isFinal(c.getModifiers()));
         Set<String> open = new TreeSet<>();
@@ -60,11 +62,20 @@ public final class LanguageTest {
         }
         checks.that("the face is " + open, open.equals(new TreeSet<>(FACE)));
         for (Field f : c.getDeclaredFields()) {
-            boolean constant = CONSTANTS.contains(f.getName());
+            boolean constant = CONSTANTS.containsKey(f.getName());
             checks.that(f + " has its place", constant ? Modifier.isPublic(f.getModifiers()) : Modifier.isPrivate(f.getModifiers()));
         }
+        constants();
         Constructor<?>[] made = c.getDeclaredConstructors();
         checks.that("one public constructor", made.length == 1 && Modifier.isPublic(made[0].getModifiers()) && made[0].getParameterCount() == 0);
+    }
+
+    private void constants() throws ReflectiveOperationException {
+        for (Map.Entry<String, Integer> constant : CONSTANTS.entrySet()) {
+            Field f = FirstAwake.class.getField(constant.getKey());
+            checks.that(f + " is a constant int", f.getType() == int.class && Modifier.isStatic(f.getModifiers()) && Modifier.isFinal(f.getModifiers()));
+            checks.due(f.getName(), f.getInt(null), constant.getValue());
+        }
     }
 
     private void classesInside() {
